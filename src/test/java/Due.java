@@ -1,0 +1,79 @@
+/** What the project's tests share: text on the tape, and counting of answers that are not due. */
+final class Due {
+  private static int wrong = 0;
+  private static int looked = 0;
+
+  static void is(String call, long got, long want) {
+    looked++;
+    if (got != want) {
+      wrong++;
+      if (wrong <= 30) {
+        System.out.println(call + " answered " + got + ", due is " + want);
+      }
+    }
+  }
+
+  static void is(String call, boolean got, boolean want) {
+    is(call, got ? 1 : 0, want ? 1 : 0);
+  }
+
+  /** Puts a text of at most 400 signs on the tape, whatever stood there. */
+  static void put(TableCatalog x, String text) {
+    x.end(0);
+    int fed = 0;
+    // the tape's last twenty bytes can only be fed whole, so every step is checked
+    for (int i = 0; i < text.length(); i += 20) {
+      int[] n = new int[5];
+      for (int k = 0; k < 20; k++) {
+        int sign = i + k < text.length() ? text.charAt(i + k) & 255 : 32;
+        n[k / 4] = n[k / 4] << 8 | sign;
+      }
+      fed += 20;
+      is("feed of '" + text + "'", x.feed(n[0], n[1], n[2], n[3], n[4]), fed);
+    }
+    is("end of '" + text + "'", x.end(text.length()), true);
+  }
+
+  static int act(TableCatalog x, String text) {
+    put(x, text);
+    return x.act();
+  }
+
+  static int named(TableCatalog x, String text) {
+    put(x, text);
+    return x.named();
+  }
+
+  /** A statement that is taken as the table t. */
+  static void made(TableCatalog x, String text, int t) {
+    is("act '" + text + "'", act(x, text), t);
+    is("fault(0) of '" + text + "'", x.fault(0), 0);
+    is("fault(1) of '" + text + "'", x.fault(1), -1);
+  }
+
+  /** A statement that is refused with a fault at a place. */
+  static void bad(TableCatalog x, String text, int fault, int place) {
+    is("act '" + text + "'", act(x, text), -1);
+    is("fault(0) of '" + text + "'", x.fault(0), fault);
+    is("fault(1) of '" + text + "'", x.fault(1), place);
+  }
+
+  /** What was found is these and no more. */
+  static void found(TableCatalog x, String call, int count, int... want) {
+    is(call, count, want.length);
+    for (int i = 0; i < want.length; i++) {
+      is(call + " found(" + i + ")", x.found(i), want[i]);
+    }
+    is(call + " found(" + want.length + ")", x.found(want.length), -1);
+  }
+
+  static void close() {
+    System.out.println(looked + " answers looked at, " + wrong + " not as due");
+    if (wrong != 0 || looked == 0) {
+      System.exit(1);
+    }
+  }
+
+  private Due() {
+  }
+}
