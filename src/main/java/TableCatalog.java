@@ -705,7 +705,7 @@ public final class TableCatalog {
         }
 
         boolean has(int number) {
-            return (bitsOf(number / STRIDE) >> number % STRIDE & 1) != 0;
+            return number >= 0 && (bitsOf(number / STRIDE) >> number % STRIDE & 1) != 0;
         }
 
         void add(int number) {

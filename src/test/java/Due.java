@@ -58,6 +58,12 @@ final class Due {
     is("fault(1) of '" + text + "'", x.fault(1), place);
   }
 
+  /** A statement, refused with a fault at the place of the mark ^, which is not of the text. */
+  static void bad(TableCatalog x, int fault, String marked) {
+    int place = marked.indexOf('^');
+    bad(x, marked.substring(0, place) + marked.substring(place + 1), fault, place);
+  }
+
   /** What was found is these and no more. */
   static void found(TableCatalog x, String call, int count, int... want) {
     is(call, count, want.length);
