@@ -8,6 +8,7 @@ public final class StatementsTest {
     grammarOfSources();
     grammarOfSelects();
     grammarOfTerms();
+    cutShort();
     tooMuch();
     missingNames();
     wrongTypes();
@@ -112,6 +113,9 @@ public final class StatementsTest {
     Due.bad(x, 1, "^tablea (x n);");
     Due.bad(x, 1, "^Table a (x n);");
     Due.bad(x, 1, "^1 a (x n);");
+    Due.bad(x, 1, "^cable a (x n);");
+    Due.bad(x, 1, "^tabla a (x n);");
+    Due.bad(x, 1, "^from a (x n);");
     Due.bad(x, 1, "^tableabcdefg a (x n);");
     Due.bad(x, 1, "table^");
     Due.bad(x, 1, "table ^");
@@ -194,6 +198,10 @@ public final class StatementsTest {
     Due.bad(x, 1, "view v = c : abcdefgh^i.x from a;");
     Due.bad(x, 1, "view v = c : a.abcdefgh^i from a;");
     Due.bad(x, 1, "view v = c : lenlenle^n ( 1 ) from a;");
+    Due.bad(x, 1, "view v = c : ben ^( 'a' ) from a;");
+    Due.bad(x, 1, "view v = c : zaz.zaz ^z");
+    Due.bad(x, 1, "view v = c : 98 ^09 from a;");
+    Due.bad(x, 1, "view v = c : 9890^9 from a;");
     Due.bad(x, 1, "view v = c : len ^. x from a;");
     Due.bad(x, 1, "view v = c : len ^'a' from a;");
     Due.bad(x, 1, "view v = c : len (^) from a;");
@@ -219,6 +227,30 @@ public final class StatementsTest {
     Due.made(x, "view v = c : 'abcdefghijklmnopqrstuvwxyz from view' from a;", 1);
   }
 
+  /** Each beginning of a statement, with the statement's end at once or none at all. */
+  private static void cutShort() {
+    String[] whole = {"table b ( x n , y t , z d ) ;",
+      "view v = c : a . x + 1 , d : len ( 'ab' & str ( 9 ) ) - 90 from a , b where a . x < 1 + len ( '' ) ;",
+      "copy v = c : a . x from a where a . x = 1 ;"};
+    for (String text : whole) {
+      for (int stop = text.indexOf(' '); stop >= 0; stop = text.indexOf(' ', stop + 1)) {
+        String head = text.substring(0, stop);
+        boolean fits = head.endsWith(")") && head.startsWith("table") || head.endsWith("from a") || head.endsWith("from a , b")
+            || head.endsWith("< 1") || head.endsWith("= 1") || head.endsWith("( '' )") && head.contains("where");
+        TableCatalog x = new TableCatalog();
+        Due.made(x, "table a (x n);", 0);
+        Due.bad(x, 1, head + "^");
+        Due.bad(x, 1, head + " ^?");
+        if (fits) {
+          Due.is("act " + head + ";", Due.act(x, head + ";"), head.contains(", b") ? -1 : 1);
+          Due.is("fault(0)", x.fault(0), head.contains(", b") ? 2 : 0);
+        } else {
+          Due.bad(x, 1, head + "^;");
+        }
+      }
+    }
+  }
+
   private static void tooMuch() {
     TableCatalog x = new TableCatalog();
     Due.made(x, "table a (x n);", 0);
@@ -227,6 +259,11 @@ public final class StatementsTest {
     Due.bad(x, 1, "table b (b n,c n,d n,e n,f n,g n ^h n);");
     Due.bad(x, 1, "view v = a:1,b:1,c:1,d:1,e:1,f:1, ^g:1 from a;");
     Due.bad(x, 1, "view v = a:1,b:1,c:1,d:1,e:1,f:1,^");
+    Due.bad(x, 1, "table b (b n,c n,d n,e n,f n,g n,^;");
+    Due.bad(x, 1, "table b (b n,c n,d n,e n,f n,g n,^);");
+    Due.bad(x, 1, "view v = a:1,b:1,c:1,d:1,e:1,f:1,^;");
+    Due.bad(x, 1, "view v = a:1,b:1,c:1,d:1,e:1,f:1,^from a;");
+    Due.bad(x, 1, "view v = a:1 from a, b, c,^;");
     Due.bad(x, 1, "view v = a:1 from a, b, c, ^d;");
     Due.bad(x, 1, "view v = a:1 from a, b, c, ^abcdefghij;");
     Due.bad(x, 1, "view v = a:1+1+1+1+1+1 ^+1 from a;");
