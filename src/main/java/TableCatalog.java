@@ -1167,11 +1167,12 @@ public final class TableCatalog {
                 draft.program.add(kind, place);
                 return takeConstant(kind);
             }
-            if (kind != WORD_LEN && kind != WORD_STR || open >= MAX_OPEN) {
+            if (kind != WORD_LEN && kind != WORD_STR) {
                 return false;
             }
             at++;
-            if (!take('(') || !readFormula(open + 1)) {
+            // one bracket too many is at fault itself, so the word ahead of it has been passed
+            if (open >= MAX_OPEN || !take('(') || !readFormula(open + 1)) {
                 return false;
             }
             draft.program.add(kind, place);

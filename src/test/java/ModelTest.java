@@ -239,7 +239,7 @@ public final class ModelTest {
           }
         }
       }
-      if (open < 3 && random.nextInt(3) == 0 || random.nextInt(80) == 0) {
+      if (open < 3 && random.nextInt(3) == 0 || random.nextInt(open < 3 ? 80 : 9) == 0) {
         String inside = formula(list, type == 'n' ? 't' : 'n', open + 1);
         return (type == 'n' ? "len" : "str") + blank() + "(" + blank() + inside + blank() + ")";
       }
@@ -487,10 +487,11 @@ public final class ModelTest {
       String word = word();
       Node node = node(word, at);
       if (word.equals("len") || word.equals("str")) {
+        keyword(word);
+        blanks();
         if (open == 3) {
           throw new Stop(at);
         }
-        keyword(word);
         sign("(");
         node.left = formula(open + 1);
         sign(")");

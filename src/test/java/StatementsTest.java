@@ -10,6 +10,7 @@ public final class StatementsTest {
     grammarOfTerms();
     cutShort();
     tooMuch();
+    fourthBracket();
     missingNames();
     wrongTypes();
     repeatedNames();
@@ -271,11 +272,35 @@ public final class StatementsTest {
     Due.bad(x, 1, "view v = a:1+1+1+1+1+1 ^&1 from a;");
     Due.bad(x, 1, "view v = a:len(''&''&''&''&''&''^&'') from a;");
     Due.bad(x, 1, "view v = a:1 from a where 1<1+1+1+1+1+1^+1;");
-    Due.bad(x, 1, "view v = a:len(str(len(^str(1)))) from a;");
-    Due.bad(x, 1, "view v = a:len(str(len('' & ^str . x))) from a;");
-    Due.bad(x, 1, "view v = a:len(str(len(^(");
     Due.made(x, "view v = a:1+1+1+1+1+len(''&''&''&''&''&str(1+1+1+1+1+len(''))) from a where 1+1+1+1+1+1<1+1+1+1+1+1;", 1);
-    // brackets that were closed are not open
+  }
+
+  /** A 4th bracket is the sign itself, not the word ahead of it; nothing else fits there, either. */
+  private static void fourthBracket() {
+    TableCatalog x = new TableCatalog();
+    Due.made(x, "table a (x n);", 0);
+    Due.bad(x, 1, "view v = a:len(str(len(str^(1)))) from a;");
+    Due.bad(x, 1, "view v = a:str(len(str(len^('')))) from a;");
+    Due.bad(x, 1, "view v = a:str(len(str(len \n  ^('')))) from a;");
+    Due.bad(x, 1, "view v = a:len(str(len('' & str ^. x))) from a;");
+    Due.bad(x, 1, "view v = a:len(str(len('' & str ^(1) & str(1)))) from a;");
+    Due.bad(x, 1, "view v = a:1 from a where 1 < len(str(1 + len(str^(1))));");
+    Due.bad(x, 1, "view v = a:len('') + len(str(1) & str(len(str^(1)))) from a;");
+    // whatever stands there, whole
+    Due.bad(x, 1, "view v = c : str(len(str(len^");
+    Due.bad(x, 1, "view v = c : str(len(str(len  ^");
+    Due.bad(x, 1, "view v = c : str(len(str(len^\0\0\0");
+    Due.bad(x, 1, "view v = c : str(len(str(len ^abcdefghij");
+    Due.bad(x, 1, "view v = c : str(len(str(len ^123456");
+    Due.bad(x, 1, "view v = c : str(len(str(len ^'a");
+    Due.bad(x, 1, "view v = c : str(len(str(len^)))) from a;");
+    Due.bad(x, 1, "view v = c : str(len(str(len ^len (");
+    // without a word ahead of it a bracket is no TERM at all
+    Due.bad(x, 1, "view v = c : len(str(len(^(");
+    // a word that only begins so is a NAME
+    Due.bad(x, 1, "view v = c : len(str(len(strs^(1)))) from a;");
+    // three at once are fine, and brackets that were closed are not open
+    Due.made(x, "view v = a:len(str(len(''))) from a;", 1);
     Due.made(x, "view w = a:len(str(len(''))) + len(str(len('')+len(''))) from a;", 2);
   }
 
