@@ -2,13 +2,19 @@
 final class Due {
   private static int wrong = 0;
   private static int looked = 0;
+  private static String sentence = "";
+
+  /** The document's sentence that the answers from here on are due by. */
+  static void by(String words) {
+    sentence = "[" + words + "] ";
+  }
 
   static void is(String call, long got, long want) {
     looked++;
     if (got != want) {
       wrong++;
       if (wrong <= 30) {
-        System.out.println(call + " answered " + got + ", due is " + want);
+        System.out.println(sentence + call + " answered " + got + ", due is " + want);
       }
     }
   }
@@ -32,6 +38,14 @@ final class Due {
       is("feed of '" + text + "'", x.feed(n[0], n[1], n[2], n[3], n[4]), fed);
     }
     is("end of '" + text + "'", x.end(text.length()), true);
+  }
+
+  /** An object with the tables a and b, the columns n, t and d of each named as their types. */
+  static TableCatalog two() {
+    TableCatalog x = new TableCatalog();
+    made(x, "table a (n n, t t, d d);", 0);
+    made(x, "table b (n n, t t, d d);", 1);
+    return x;
   }
 
   static int act(TableCatalog x, String text) {
