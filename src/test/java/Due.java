@@ -23,19 +23,22 @@ final class Due {
     is(call, got ? 1 : 0, want ? 1 : 0);
   }
 
+  /** Feeds the first twenty signs of a text, blanks behind it if it has not so many. */
+  static int feed(TableCatalog x, String text) {
+    int[] n = new int[5];
+    for (int k = 0; k < 20; k++) {
+      int sign = k < text.length() ? text.charAt(k) & 255 : 32;
+      n[k / 4] = n[k / 4] << 8 | sign;
+    }
+    return x.feed(n[0], n[1], n[2], n[3], n[4]);
+  }
+
   /** Puts a text of at most 400 signs on the tape, whatever stood there. */
   static void put(TableCatalog x, String text) {
     x.end(0);
-    int fed = 0;
     // the tape's last twenty bytes can only be fed whole, so every step is checked
     for (int i = 0; i < text.length(); i += 20) {
-      int[] n = new int[5];
-      for (int k = 0; k < 20; k++) {
-        int sign = i + k < text.length() ? text.charAt(i + k) & 255 : 32;
-        n[k / 4] = n[k / 4] << 8 | sign;
-      }
-      fed += 20;
-      is("feed of '" + text + "'", x.feed(n[0], n[1], n[2], n[3], n[4]), fed);
+      is("feed of '" + text + "'", feed(x, text.substring(i)), i + 20);
     }
     is("end of '" + text + "'", x.end(text.length()), true);
   }
