@@ -45,6 +45,7 @@ public final class EdgesOfCallsTest {
     tableOfAnotherWhat();
     typeIsALetter();
     typeOfNoneSuch();
+    noneIsMinusOne();
     theLastCallHoldsAsWell();
     Due.close();
   }
@@ -392,6 +393,13 @@ public final class EdgesOfCallsTest {
     Due.bad(x, 3, "view v = c : 1 ^+ 'x' from a;");
     Due.bad(x, 4, "table ^a (x n);");
     Due.bad(x, 1, "^");
+    // a place within a NAME, digits or a text tells nothing of the next
+    for (String within : new String[] {"table abcdefgh^i", "view v = c : 1234^5", "view v = c : 'qrst^?"}) {
+      Due.bad(x, 1, within);
+      Due.bad(x, 1, "^?");
+      Due.bad(x, 1, within);
+      Due.bad(x, 4, "table ^a (x n);");
+    }
     for (int t = 2; t < 16; t++) {
       Due.made(x, "table " + (char) ('a' + t) + " (x n);", t);
     }
@@ -684,7 +692,13 @@ public final class EdgesOfCallsTest {
     Due.is("type(6, 0), not yet", x.type(6, 0), -1);
   }
 
-  // ---- what it is
+  // ---- what it is, and its constant
+
+  private static void noneIsMinusOne() {
+    Due.by("NONE = -1: There is none; it is refused");
+    Due.is("NONE", TableCatalog.NONE, -1);
+    Due.is("named of no NAME", new TableCatalog().named(), TableCatalog.NONE);
+  }
 
   private static void theLastCallHoldsAsWell() {
     Due.by("An object is used for at most 512 calls after it has been made");

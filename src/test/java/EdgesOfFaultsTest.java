@@ -2,6 +2,7 @@
 public final class EdgesOfFaultsTest {
   public static void main(String[] args) {
     theFirstByteWithWhichNoneGoesOn();
+    whatIsDueCannotBeLeftOut();
     namesAndDigitsAreWhole();
     textsAreNotWhole();
     theTextsLengthIfItEndsTooSoon();
@@ -67,6 +68,55 @@ public final class EdgesOfFaultsTest {
       bad(1, head + "^?");
       fits(head);
     }
+  }
+
+  private static void whatIsDueCannotBeLeftOut() {
+    Due.by("I: 1 the first byte with which no STATEMENT goes on (what is due is left out)");
+    bad(1, "^(x n);");
+    bad(1, "^q (x n);");
+    bad(1, "^= c : 1 from a;");
+    bad(1, "table ^(x n);");
+    bad(1, "table q ^x n);");
+    bad(1, "table q (x n ^;");
+    bad(1, "table q (x n)^");
+    bad(1, "table q (x n ^y t);");
+    bad(1, "table q (x ^, y t);");
+    bad(1, "table q (^, x n);");
+    bad(1, "table q (x n, ^);");
+    bad(1, "view ^= c : 1 from a;");
+    bad(1, "view v ^c : 1 from a;");
+    bad(1, "view v = ^: 1 from a;");
+    bad(1, "view v = ^from a;");
+    bad(1, "view v = c ^1 from a;");
+    bad(1, "view v = c ^a;");
+    bad(1, "view v = c ^from a;");
+    bad(1, "view v = c : ^from a;");
+    bad(1, "view v = c : ^, e : 1 from a;");
+    bad(1, "view v = c : a ^b;");
+    bad(1, "view v = c : a ^from a;");
+    bad(1, "view v = c : a.^from a;");
+    bad(1, "view v = c : 1 ^a;");
+    bad(1, "view v = c : 1 ^e : 2 from a;");
+    bad(1, "view v = c : 1, ^from a;");
+    bad(1, "view v = c : 1 + ^from a;");
+    bad(1, "view v = c : 1 ^2 from a;");
+    bad(1, "view v = c : len ^'' from a;");
+    bad(1, "view v = c : len ( ^) from a;");
+    bad(1, "view v = c : len ( '' ^from a;");
+    bad(1, "view v = c : 1 ^) from a;");
+    bad(1, "view v = c : 1 from ^;");
+    bad(1, "view v = c : 1 from ^where 1 < 2;");
+    bad(1, "view v = c : 1 from a ^b;");
+    bad(1, "view v = c : 1 from a, ^;");
+    bad(1, "view v = c : 1 from a, ^where 1 < 2;");
+    bad(1, "view v = c : 1 from a ^1 < 2;");
+    bad(1, "view v = c : 1 from a where ^< 2;");
+    bad(1, "view v = c : 1 from a where ^;");
+    bad(1, "view v = c : 1 from a where 1 ^2;");
+    bad(1, "view v = c : 1 from a where 1 ^;");
+    bad(1, "view v = c : 1 from a where 1 < ^;");
+    bad(1, "view v = c : 1 from a where 1 < 2 ^< 3;");
+    bad(1, "view v = c : 1 from a where 1 < 2^");
   }
 
   private static void namesAndDigitsAreWhole() {
@@ -212,9 +262,13 @@ public final class EdgesOfFaultsTest {
     bad(1, "table q (r n,s n,t n,u n,v n,w n , ^abcdefghij n);");
     bad(1, "table q (r n,s n,t n,u n,v n,w n,^");
     bad(1, "table q (r n,s n,t n,u n,v n,w n,^r");
+    bad(1, "table q (r n,s n,t n,u n,v n,w n,^;");
+    bad(1, "table q (r n,s n,t n,u n,v n,w n,^);");
     bad(1, "view v = r:1,s:1,t:1,u:1,v:1,w:1,^x:1 from a;");
     bad(1, "copy v = r:1,s:1,t:1,u:1,v:1,w:1,\n^abcdefghij");
     bad(1, "view v = r:1,s:1,t:1,u:1,v:1,w:1,^from a;");
+    bad(1, "view v = r:1,s:1,t:1,u:1,v:1,w:1,^a;");
+    bad(1, "view v = r:1,s:1,t:1,u:1,v:1,w:1,^;");
     fits("table q (r n,s n,t n,u n,v n,w n);");
     fits("view v = r:1,s:1,t:1,u:1,v:1,w:1 from a;");
   }
@@ -227,6 +281,7 @@ public final class EdgesOfFaultsTest {
     Due.bad(x, 1, "view v = c : 1 from a,b,q , ^abcdefghij;");
     Due.bad(x, 1, "view v = c : 1 from a,b,q,^");
     Due.bad(x, 1, "view v = c : 1 from a,b,q,^where 1 < 1;");
+    Due.bad(x, 1, "view v = c : 1 from a,b,q,^;");
     Due.bad(x, 1, "view v = c : 1 from a,a,a,^a;");
     Due.made(x, "view v = c : 1 from a,b,q;", 4);
   }
