@@ -449,7 +449,7 @@ public final class EdgesOfUsersTest {
 
   private static void alikeOfFullStatements() {
     Due.by("25: one by one (to the last)");
-    String head = "=c:1 from a where '" + "q".repeat(350);
+    String head = "=c:1 from a where '" + "q".repeat(363);
     Due.is("the same", alike(head + "x'='';", head + "x'='';"), 1);
     Due.is("another last letter", alike(head + "x'='';", head + "y'='';"), 0);
     Due.is("a text more", alike(head + "x'='';", head + "x'='z';"), 0);
